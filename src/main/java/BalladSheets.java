@@ -1274,8 +1274,8 @@ public final class BalladSheets {
         /** Takes a set of sheets (MOST_KIN at most, their songs there) and orders it by least years. */
         void gather(int set, Sheets sheets, Song[] songs, int[] least) {
             members = 0;
+            for (int s = 0; s < MOST_SHEETS; s++) rank[s] = NONE;
             for (int s = 0; s < sheets.size; s++) {
-                rank[s] = NONE;
                 if (!has(set, s) || members >= MOST_KIN) continue;
                 songOf[s] = songs[sheets.all[s].song];
                 byNumber[members] = s;
