@@ -22,7 +22,7 @@ public final class BalladSheets {
     private static final int BLANK = 32, SLASH = 47;
 
     private static final int COPY = 1, HALF = 2, STOLEN = 3, SLIP = 4, HEARD = 5, LOST = 6;
-    private static final int KINDS = 7;
+    private static final int KINDS = LOST + 1;
     private static final int[] KIND_ABOVE = {0, 0, COPY, 0, 0, 0, HEARD};
     private static final int[] NO_CUT = {};
 
@@ -607,12 +607,11 @@ public final class BalladSheets {
     }
 
     private void tellFraction(long above, long below) {
-        long divisor = greatestDivisor(above, below);
+        long divisor = Math.max(1, greatestDivisor(above, below));
         upper = above / divisor;
         lower = below / divisor;
     }
 
-    /** The divisor of a number that may be 0 and one above 0: it is above 0 too. */
     private static long greatestDivisor(long a, long b) {
         long rest = a;
         long divisor = b;
@@ -754,7 +753,7 @@ public final class BalladSheets {
         /** The first line whose beats are off those of a tune (that has some) by more than slack; NONE. */
         int firstMisfit(int[] tune, int slack) {
             int place = 0;
-            for (int line = 0; line < lines; line++) {
+            for (int line = 0; line < lines && place < tune.length; line++) {
                 int off = beats(line) - tune[place];
                 if (off > slack || -off > slack) return line;
                 place = place + 1 < tune.length ? place + 1 : 0;
@@ -1112,8 +1111,10 @@ public final class BalladSheets {
         }
 
         private void goOnFrom(int set) {
+            int ways = waysOfSet[set];
             for (int m = 0; m < size; m++) {
-                if (!has(set, m) && (mustPrecede[m] & ~set) == 0) waysOfSet[set | 1 << m] += waysOfSet[set];
+                int bit = 1 << m;
+                if ((set & bit) == 0 && (mustPrecede[m] & ~set) == 0) waysOfSet[set | bit] += ways;
             }
         }
     }
@@ -1291,15 +1292,16 @@ public final class BalladSheets {
             int sum = 0;
             rivals = 1;
             for (int k = 1; k < members; k++) {
-                int best = Integer.MAX_VALUE;
+                int best = 0;
                 int alike = 0;
                 for (int parent = 0; parent < k; parent++) {
                     int changes = changesFrom(byAge[parent], byAge[k]);
-                    if (changes < best) {
+                    if (alike == 0 || changes < best) {
                         best = changes;
-                        alike = 0;
+                        alike = 1;
+                    } else if (changes == best) {
+                        alike++;
                     }
-                    if (changes == best) alike++;
                 }
                 sum += best;
                 rivals *= alike;

@@ -364,6 +364,9 @@ public final class PromisesTest {
         due(2 + 32, x.tunes(0));
         rule("L0", 0);
         due(2, x.tunes(0));
+        lay(0, 2, 0);
+        x.tune(0, 0);
+        due(1 + 2, x.tunes(0));
         finds(NOTHING, x.tunes(1));
         due(BAD, x.tunes(10));
         due(BAD, x.tunes(-1));
@@ -433,6 +436,13 @@ public final class PromisesTest {
         due(BAD, x.force(0, 1000, 0));
         due(BAD, x.force(0, 0, -1));
         due(BAD, x.force(0, 0, 1000));
+
+        promise(19);
+        rule("R5", 0);
+        due(1, x.force(0, 0, 0));
+        rule("L5", 0);
+        due(2, x.force(3, 0, 0));
+        due(5, x.force(0, 0, 0));
 
         promise(20);
         due(NONE, x.why(0, 999, 999));
@@ -739,10 +749,20 @@ public final class PromisesTest {
         due(BAD, x.standsAhead(1, 6));
         finds(UNLIKE, x.standsAhead(0, 3));
         finds(UNLIKE, x.standsAhead(4, 5));
-        for (int s = 6; s < 16; s++) shown(NONE, 0, 0, 0);
+        for (int s = 6; s < 15; s++) shown(NONE, 0, 0, 0);
+        x.block(1, 0, 0);
+        x.block(2, 0, 0);
+        due(1, x.standsAhead(2, 14));
+        due(479001600 / 2, x.many());
+        x.standsAhead(14, 2);
+        due(479001600 / 2, x.many());
+        shown(NONE, 0, 0, 0);
+        x.block(3, 0, 2);
+        due(SPENT, x.standsAhead(0, 3));
+        x.block(3, 1, 2);
         finds(UNLIKE, x.standsAhead(0, 3));
         due(SPENT, x.standsAhead(0, 1));
-        due(1, x.many());
+        due(479001600 / 2, x.many());
 
         promise(32);
         shown(1, 0, 0, 0);
@@ -780,6 +800,11 @@ public final class PromisesTest {
         for (int s = 4; s < 20; s++) shown(NONE, 0, 0, 0);
         lay(0, 0, 4, 5, 6, 7, 8, 9, 10, 11, 12, 13, 14, 15, 16, 17, 18, 19, 1, 2);
         due(NONE, x.judgeOrder(0, 0));
+        promise(32);
+        shown(NONE, 0, 1, 0);
+        shown(NONE, 0, 0, 0);
+        lay(0, 0, 1);
+        due(1, x.judgeOrder(0, 0));
     }
 
     private static void years() {
@@ -827,6 +852,15 @@ public final class PromisesTest {
         x.span(1, 1610, 1630);
         due(1610, x.year(0, false));
         due(1620, x.year(1, true));
+        promise(33);
+        shown(1, 0, 3, 0);
+        shown(NONE, 0, 1, 0);
+        shown(1, NONE, 0, 1);
+        x.span(1, 1700, 1800);
+        due(0, x.ahead(1, 2));
+        due(1700, x.year(2, false));
+        x.span(2, 1600, 1750);
+        due(1750, x.year(1, true));
 
         promise(34);
         due(0, x.doubts());
@@ -864,6 +898,24 @@ public final class PromisesTest {
         due(3, x.doubts());
         x.span(0, 1712, 1712);
         due(2, x.doubts());
+        x.span(0, 1500, 1700);
+        due(2, x.doubts());
+        x.span(0, 1712, 1720);
+        x.span(1, 1600, 1699);
+        due(2, x.doubts());
+        promise(34);
+        shown(NONE, 0, 0, 0);
+        shown(NONE, 0, 1, 0);
+        shown(NONE, NONE, 0, 0);
+        x.printer(0, 1500, 1500);
+        x.sheet(0, 0, 0, 0);
+        x.span(0, 1600, 1650);
+        x.span(1, 1550, 1600);
+        due(0, x.doubts());
+        x.span(3, 1503, 1503);
+        due(8, x.doubts());
+        x.span(0, 1601, 1650);
+        due(1 + 8, x.doubts());
     }
 
     private static void families() {
@@ -990,6 +1042,14 @@ public final class PromisesTest {
         due(STATE, x.judge(7, 0));
         for (int s = 5; s < 11; s++) x.sheet(0, NONE, 9, 0);
         due(SPENT, x.judge(0x7ff, 5));
+        promise(37);
+        sing(0, "a");
+        for (int s = 0; s < 11; s++) x.sheet(0, NONE, 0, 0);
+        lay(0, NONE, 0, 1, 2, 3, 4, 5, 6, 7, 8);
+        due(NONE, x.judge(0x3ff, 0));
+        due(SPENT, x.judge(0x7ff, 0));
+        due(0, x.family(0x3ff));
+        due(362880, x.many());
 
         promise(38);
         due(BAD, x.taken(0, 1));
@@ -1175,6 +1235,9 @@ public final class PromisesTest {
         x.walk(0, 0);
         due(5, x.far(0, 3));
         due(NONE, x.far(1, 3));
+        lay(0, 0);
+        x.walk(2, 0);
+        due(NONE, x.far(0, 0));
         lay(0, 3, 3, 3, 3, 3, 3, 2, 1);
         x.walk(0, 0);
         due(7, x.far(0, 1));
