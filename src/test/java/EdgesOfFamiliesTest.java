@@ -4,6 +4,8 @@ import java.io.IOException;
 public final class EdgesOfFamiliesTest extends Edges {
     private static final int[] NO_SONGS = {-1, 10, NONE, LEAST, MOST};
     private static final int[] NO_ROWS = {-1, 6, NONE, LEAST, MOST};
+    // The document names no years of the register: they are taken as all that are told, 1500 .. 1899.
+    private static final int[] NO_YEARS = {1499, 1900, 0, -1, NONE, LEAST, MOST};
 
     public static void main(String[] args) throws IOException {
         begin(args);
@@ -394,7 +396,7 @@ public final class EdgesOfFamiliesTest extends Edges {
         edge(39, "BAD");
         for (int song : NO_SONGS) refuses(BAD, () -> x.register(song, 0, 1600));
         for (int p : new int[] {-1, 8, NONE, LEAST, MOST}) refuses(BAD, () -> x.register(0, p, 1600));
-        for (int year : new int[] {1499, 0, -1, NONE, LEAST, MOST}) refuses(BAD, () -> x.register(0, 0, year));
+        for (int year : NO_YEARS) refuses(BAD, () -> x.register(0, 0, year));
 
         edge(39, "FULL");
         for (int k = 1; k <= 40; k++) due(k, x.register(0, 0, 1600));
@@ -426,7 +428,7 @@ public final class EdgesOfFamiliesTest extends Edges {
 
         edge(40, "BAD");
         for (int song : NO_SONGS) refuses(BAD, () -> x.right(song, 1600));
-        for (int year : new int[] {1499, 0, -1, NONE, LEAST, MOST}) refuses(BAD, () -> x.right(0, year));
+        for (int year : NO_YEARS) refuses(BAD, () -> x.right(0, year));
     }
 
     private static void whoseRight() {
