@@ -1212,16 +1212,14 @@ public final class BalladSheets {
          */
         private int findClashes(Sheets sheets, int n) {
             int surely = 0;
-            for (int k = 0; k < n; k++) clashing[k] = 0;
             for (int k = 0; k < n; k++) {
+                clashing[k] = 0;
                 int s = doubted[k];
                 Sheet sheet = sheets.all[s];
                 if (sheet.from > most[s] || sheet.till < least[s]) surely |= 1 << k;
                 for (int m = 0; m < n; m++) {
                     int t = doubted[m];
-                    if (!has(noOlder[s], t) || sheet.from <= sheets.all[t].till) continue;
-                    clashing[k] |= 1 << m;
-                    clashing[m] |= 1 << k;
+                    if (has(noOlder[s], t) && sheet.from > sheets.all[t].till) clashing[k] |= 1 << m;
                 }
             }
             return surely;

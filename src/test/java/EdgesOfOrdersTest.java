@@ -17,6 +17,7 @@ public final class EdgesOfOrdersTest extends Edges {
         judgeOrder();
         year();
         whichYears();
+        yearsByWay();
         doubts();
         whichDoubts();
         end(28, 34);
@@ -131,6 +132,19 @@ public final class EdgesOfOrdersTest extends Edges {
         shown(7, 0, 0, 32768);
         shown(7, 0, 0, 32767);
         ahead(2, 3, -20, -20);
+
+        terms("and if one is AHEAD by a BLOCK, the other by type");
+        shown(7, 5, 0, 65535);
+        shown(7, 5, 4095, 0);
+        ahead(0, 1, -40, -40);
+        due(1, x.quarrel());
+        x.type(1, 65535, 0);
+        ahead(0, 1, 1, 0);
+        due(NONE, x.quarrel());
+        x.type(0, 0, 0);
+        x.block(0, 5, 4095);
+        ahead(0, 1, 2, 0);
+        due(NONE, x.quarrel());
     }
 
     private static void quarrel() {
@@ -172,6 +186,11 @@ public final class EdgesOfOrdersTest extends Edges {
 
         edge(30, "BAD");
         shown(NONE, 5, 0, 0);
+        for (int block : NO_BLOCKS) refuses(BAD, () -> x.orders(block));
+
+        edge(30, "BAD");
+        // Sheets without a block are not ones of a block that is none.
+        plainSheets(13);
         for (int block : NO_BLOCKS) refuses(BAD, () -> x.orders(block));
 
         edge(30, "SPENT: more than 12");
@@ -389,6 +408,13 @@ public final class EdgesOfOrdersTest extends Edges {
         plainSheets(1);
         for (int s : new int[] {-1, 1, 20, NONE, LEAST, MOST}) refuses(BAD, () -> x.year(s, true));
         years(0, 1500, 1999);
+        edge(33, "BAD");
+        shown(NONE, 0, 0, 0);
+        shown(NONE, 0, 1, 0);
+        x.span(0, 1601, 1601);
+        x.span(1, 1600, 1600);
+        due(NONE, x.year(0, true));
+        for (int s : new int[] {-1, 2, 20, NONE, LEAST, MOST}) refuses(BAD, () -> x.year(s, true));
     }
 
     private static void whichYears() {
@@ -469,6 +495,29 @@ public final class EdgesOfOrdersTest extends Edges {
         years(12, 1700, 1999);
     }
 
+    /** What is ahead by way of one between them, wherever that one lies, and no longer than it is so. */
+    private static void yearsByWay() {
+        for (int between = 0; between < 3; between++) {
+            terms("if one is AHEAD of another one (by BLOCK or type) its year is no greater");
+            int[] place = {(between + 1) % 3, between, (between + 2) % 3};
+            for (int s = 0; s < 3; s++) x.sheet(0, s == place[0] ? NONE : 4, 0, 0);
+            x.block(place[0], 0, 0);
+            x.block(place[1], 0, 1);
+            x.type(place[2], 1, 0);
+            due(0, x.ahead(place[0], place[2]));
+            x.span(place[0], 1600, 1700);
+            years(place[2], 1600, 1999);
+            x.span(place[2], 1500, 1650);
+            years(place[0], 1600, 1650);
+            x.block(place[1], 1, 1);
+            years(place[2], 1500, 1650);
+            years(place[0], 1600, 1700);
+            x.span(place[2], 1500, 1599);
+            years(place[2], 1500, 1599);
+            due(0, x.doubts());
+        }
+    }
+
     private static void doubts() {
         edge(34, "DOUBTS (bits of SHEETS); 0: there are YEARS");
         due(0, x.doubts());
@@ -516,6 +565,13 @@ public final class EdgesOfOrdersTest extends Edges {
         x.span(2, NONE, 0);
         due(1 << 12, x.doubts());
         edge(34, "more than 10 SHEETS have a SPAN");
+        for (int s = 0; s < 11; s++) shown(NONE, 0, s == 10 ? 0 : 1, 0);
+        for (int s = 0; s < 10; s++) x.span(s, 1600, 1600);
+        x.span(10, 1601, 1601);
+        refuses(SPENT, x::doubts);
+        x.span(0, NONE, 0);
+        due(1 << 10, x.doubts());
+        edge(34, "more than 10 SHEETS have a SPAN");
         x.printer(0, 1700, 1710);
         x.printer(1, 1600, 1610);
         shown(0, 0, 0, 0);
@@ -543,6 +599,20 @@ public final class EdgesOfOrdersTest extends Edges {
         x.span(0, NONE, 0);
         x.span(1, NONE, 0);
         due(4, x.doubts());
+
+        terms("the fewest told SPANS (of those SHEETS that have one) without which there are");
+        x.printer(0, 1600, 1650);
+        for (int s = 0; s < 3; s++) x.sheet(0, 0, 0, 0);
+        x.span(0, 1653, 1653);
+        due(1, x.doubts());
+        x.span(1, 1599, 1599);
+        due(3, x.doubts());
+        x.span(2, 1652, 1700);
+        due(3, x.doubts());
+        x.span(2, 1500, 1600);
+        due(3, x.doubts());
+        x.span(2, 1500, 1599);
+        due(7, x.doubts());
 
         terms("of these the least bits");
         for (int s = 0; s < 4; s++) shown(NONE, 0, (1 << s) - 1, 0);

@@ -269,6 +269,21 @@ public final class EdgesOfSellersTest extends Edges {
         due(4, x.lost());
         fraction(1, 1);
 
+        terms("ONES: prints of which one is left, TWOS: two");
+        copies(0, 1);
+        copies(1, 1);
+        copies(2, 2);
+        copies(3, 3);
+        copies(4, 4);
+        due(5, x.lost());
+        fraction(2 * 2 / 2, 1);
+        copies(4, 1);
+        due(5, x.lost());
+        fraction(2, 1);
+        copies(2, 1);
+        due(5, x.lost());
+        fraction(1, 1);
+
         terms("ONES times ONES by twice TWOS");
         copies(0, 2);
         due(1, x.lost());

@@ -325,6 +325,13 @@ public final class EdgesOfSheetsTest extends Edges {
         due(3, x.mark(0, 3));
         x.type(0, 0, 0);
         due(3, x.mark(0, 3));
+        edge(27, "with how many SHEETS it shares S SLIPS");
+        plainSheets(2);
+        x.sheet(3, 0, 0, 0);
+        for (int s = 0; s < 3; s++) x.type(s, 0, 7);
+        due(2, x.mark(2, 3));
+        x.type(0, 0, 3);
+        due(1, x.mark(2, 3));
 
         edge(27, "a SLIP the day on which it was told");
         x.sheet(4, 0, 0, 0);
@@ -371,5 +378,11 @@ public final class EdgesOfSheetsTest extends Edges {
         for (int k = 0; k < 38; k++) x.register(9, 7, 1600);
         due(38, x.mark(0, 6));
         due(0, x.mark(1, 6));
+        edge(27, "a LOST one its entries in THE REGISTER (its SONG and PRINTER)");
+        x.sheet(6, 0, 0, 0);
+        for (int k = 1; k <= 40; k++) {
+            x.register(0, 0, 1600);
+            due(k, x.mark(0, 6));
+        }
     }
 }
