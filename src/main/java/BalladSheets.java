@@ -176,14 +176,14 @@ public final class BalladSheets {
         Song song = songs[s];
         int[] tune = tunes[u];
         if (song == null || tune == null) return found(NOTHING);
-        return song.firstMisfit(tune, inForce(L));
+        return song.firstMisfit(tune, inForceToday(L));
     }
 
     public int tunes(int s) {
         if (!isSong(s)) return BAD;
         Song song = songs[s];
         if (song == null) return found(NOTHING);
-        int slack = inForce(L);
+        int slack = inForceToday(L);
         int fitting = 0;
         for (int u = 0; u < TUNES; u++) {
             int[] tune = tunes[u];
@@ -281,7 +281,7 @@ public final class BalladSheets {
         switch (kind) {
             case COPY: return sheets.leftOfPrint(sheet);
             case HALF: return sheet.cut.length;
-            case STOLEN: return sheets.sharing(s, inForce(S));
+            case STOLEN: return sheets.sharing(s, inForceToday(S));
             case SLIP: return sheet.toldOn;
             case HEARD: return Integer.bitCount(sellers.havers(sheet.song, Math.min(today, LAST_WALKED_DAY)));
             default: return register.entriesOf(sheet.song, sheet.printer);
@@ -325,12 +325,12 @@ public final class BalladSheets {
 
     public int year(int s, boolean most) {
         if (!isSheet(s)) return BAD;
-        if (!years.work(sheets, inForce(D))) return NONE;
+        if (!years.work(sheets, inForceToday(D))) return NONE;
         return most ? years.most[s] : years.least[s];
     }
 
     public int doubts() {
-        int slack = inForce(D);
+        int slack = inForceToday(D);
         if (years.work(sheets, slack)) return 0;
         if (sheets.withSpan() > MOST_DOUBTED) return SPENT;
         return years.fewestDoubts(sheets, slack);
@@ -350,7 +350,7 @@ public final class BalladSheets {
         if (!isSetOfSheets(set)) return BAD;
         if (Integer.bitCount(set) > MOST_KIN) return SPENT;
         if (!haveSongs(set)) return found(NOTHING);
-        if (!years.work(sheets, inForce(D))) return STATE;
+        if (!years.work(sheets, inForceToday(D))) return STATE;
         families.gather(set, sheets, songs, years.least);
         int sum = families.leastSum();
         many = families.rivals;
@@ -364,7 +364,7 @@ public final class BalladSheets {
         int[] row = rows[r];
         if (row == null || !haveSongs(set)) return found(NOTHING);
         if (row.length != members) return found(SIZE);
-        if (!years.work(sheets, inForce(D))) return STATE;
+        if (!years.work(sheets, inForceToday(D))) return STATE;
         families.gather(set, sheets, songs, years.least);
         int wrong = families.firstWrongParent(row);
         if (wrong == NONE) asked = families.sumOf(row);
@@ -377,7 +377,7 @@ public final class BalladSheets {
         int second = sheets.all[t].slips;
         int shared = Integer.bitCount(first & second);
         tellWould(Integer.bitCount(first), Integer.bitCount(second), shared);
-        return shared >= inForce(S) ? 1 : 0;
+        return shared >= inForceToday(S) ? 1 : 0;
     }
 
     public int register(int song, int printer, int year) {
@@ -389,7 +389,7 @@ public final class BalladSheets {
 
     public int right(int song, int year) {
         if (!isSong(song) || !isToldYear(year)) return BAD;
-        return register.holder(song, year, inForce(R));
+        return register.holder(song, year, inForceToday(R));
     }
 
     public int join(int s, int t) {
@@ -400,7 +400,7 @@ public final class BalladSheets {
         if (one.song != other.song || one.cut.length != other.cut.length) return 0;
         long off = one.cutOff(other);
         if (off == 0 && one.broken == other.broken) return 2;
-        return off <= inForce(C) ? 1 : 0;
+        return off <= inForceToday(C) ? 1 : 0;
     }
 
     // ---- 5 sellers, lost ones
@@ -602,7 +602,7 @@ public final class BalladSheets {
         return FINDING;
     }
 
-    private int inForce(int letter) {
+    private int inForceToday(int letter) {
         return rules.inForce(letter, today, today);
     }
 

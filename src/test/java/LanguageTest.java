@@ -7,7 +7,9 @@ import java.nio.file.Files;
 import java.nio.file.Path;
 import java.util.ArrayList;
 import java.util.List;
+import java.util.Map;
 import java.util.Set;
+import java.util.TreeMap;
 import java.util.TreeSet;
 import java.util.regex.Matcher;
 import java.util.regex.Pattern;
@@ -109,13 +111,72 @@ public final class LanguageTest {
         }
     }
 
+    /** By names alone, so that what calls one method of a name is taken to call all of that name. */
+    private static Map<String, Set<String>> callsByName(String code) {
+        Map<String, StringBuilder> bodies = new TreeMap<>();
+        String[] lines = code.split("\n");
+        Pattern head = Pattern.compile("^( +)(?:[\\w\\[\\]]+ )*(\\w+)\\([^()]*\\) \\{$");
+        for (int i = 0; i < lines.length; i++) {
+            Matcher m = head.matcher(lines[i]);
+            if (!m.matches() || m.group(2).matches("if|for|while|switch")) continue;
+            StringBuilder body = bodies.computeIfAbsent(m.group(2), name -> new StringBuilder());
+            for (int k = i + 1; k < lines.length && !lines[k].equals(m.group(1) + "}"); k++) body.append(lines[k]).append('\n');
+        }
+        Map<String, Set<String>> calls = new TreeMap<>();
+        bodies.forEach((name, body) -> {
+            Set<String> called = new TreeSet<>();
+            Matcher m = Pattern.compile("(Math\\.|Integer\\.|Arrays\\.|System\\.)?\\b(\\w+)\\(").matcher(body);
+            while (m.find()) if (m.group(1) == null && bodies.containsKey(m.group(2))) called.add(m.group(2));
+            calls.put(name, called);
+        });
+        return calls;
+    }
+
+    private static int depth(String name, Map<String, Set<String>> calls, List<String> open) {
+        if (open.contains(name)) {
+            say("calls itself: " + open + " " + name);
+            return 0;
+        }
+        open.add(name);
+        int deepest = 0;
+        for (String called : calls.get(name)) deepest = Math.max(deepest, depth(called, calls, open));
+        open.remove(name);
+        return deepest + 1;
+    }
+
+    private static void callsAreShallow(String code) {
+        Map<String, Set<String>> calls = callsByName(code);
+        if (calls.size() < 100) say("only " + calls.size() + " names of methods were found");
+        for (String name : calls.keySet()) {
+            int depth = depth(name, calls, new ArrayList<>());
+            if (depth > 8) say(name + " goes " + depth + " calls deep");
+        }
+    }
+
+    private static void groupsAreTheDocuments(String doc, String source) {
+        Matcher groups = Pattern.compile("Ahead of the calls ([^\n]*) the interface says: (---- [^\n]*)\\.").matcher(doc);
+        int at = 0, seen = 0;
+        for (; groups.find(); seen++) {
+            at = source.indexOf("// " + groups.group(2) + "\n", at);
+            for (String call : groups.group(1).replaceAll("[`,]", "").split(" ")) {
+                int next = Math.max(source.indexOf("public int " + call + "(", at), source.indexOf("public long " + call + "(", at));
+                if (at < 0 || next < 0) say("not where the interface says: " + call);
+                else at = next;
+            }
+        }
+        if (seen != 6) say("the document has " + seen + " groups of calls here");
+    }
+
     public static void main(String[] args) throws IOException {
         Path root = Path.of(args.length > 0 ? args[0] : ".");
         String source = read(root.resolve("src/main/java/BalladSheets.java"));
-        faceIsTheDocuments(read(root.resolve("../shared/DOC.md")));
+        String doc = read(root.resolve("../shared/DOC.md"));
+        faceIsTheDocuments(doc);
+        groupsAreTheDocuments(doc, source);
         classesAreSmall();
         wordsAreAllowed(withoutComments(source));
         methodsAreShort(source);
+        callsAreShallow(withoutComments(source));
         System.out.println(wrong == 0 ? "the file keeps to the rules looked at" : wrong + " rules are broken");
         if (wrong != 0) System.exit(1);
     }
